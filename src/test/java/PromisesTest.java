@@ -105,6 +105,11 @@ public final class PromisesTest {
         x.settings();
         x.start();
         same("seed 0 draws", x.draw(1), 1);
+        NoiseWatch busy = busy();
+        busy.image(0);
+        Check.tell(busy, " 20;");
+        same("of a busy one", busy.settings(), 0);
+        texts("all is as at first", all(busy), all(new NoiseWatch()));
     }
 
     private static void faulty(String text, int fault, int place) {
@@ -138,6 +143,13 @@ public final class PromisesTest {
         faulty("stuck 1 2 1 1;", 1, 12);
         faulty("chance 7;log 0;noise", 1, 15);
         faulty("out 4window;", 1, 5);
+        faulty("outz 4;", 1, 0);
+        faulty("aout 4;", 1, 0);
+        faulty("chance`8;", 1, 6);
+        faulty("chance{8;", 1, 6);
+        faulty("chance 8/9;", 1, 8);
+        faulty("chance 9:;", 1, 8);
+        faulty("out 0004;out 0009;", 0, -1);
         faulty("chance 7;", 2, 7);
         faulty("chance 16;", 2, 7);
         faulty("log 0;", 2, 4);
@@ -532,6 +544,10 @@ public final class PromisesTest {
         fraction(alike, 2, 7, 2, 3);
         NoiseWatch ones = heard("", "1111");
         fraction(ones, 2, 4, 3, 3);
+        NoiseWatch half = heard("", "1110010");
+        fraction(half, 2, 7, 1, 2);
+        NoiseWatch other = heard("", "0001101");
+        fraction(other, 2, 7, 2, 4);
         NoiseWatch most = Check.with("log 40;");
         most.start();
         most.draw(400);
@@ -640,14 +656,24 @@ public final class PromisesTest {
         same("none alike", y.echo(2), 1);
         NoiseWatch z = heard("", "0101");
         same("2 of 2", z.echo(4), 2);
-        NoiseWatch far = Check.with("log 40;");
-        far.start();
-        far.draw(33);
-        far.start();
-        for (int i = 0; i < 33; i++) {
-            far.hand(far.history(i), 1);
+        same("32", echoed(32).echo(64), 32);
+        same("33 is too far", echoed(33).echo(66) < 33, true);
+        NoiseWatch part = heard("", "0010" + "1");
+        same("1 of 4, 2 of 3, 0 of 2, 0 of 1", part.echo(5), 2);
+        NoiseWatch even = heard("", "00110");
+        same("2 of 4, 0 of 3, 1 of 2, 1 of 1", even.echo(5), 4);
+    }
+
+    /** So many drawn, and the same told again. */
+    private static NoiseWatch echoed(int n) {
+        NoiseWatch x = Check.with("log 40;");
+        x.start();
+        x.draw(n);
+        x.start();
+        for (int i = 0; i < n; i++) {
+            x.hand(x.history(i), 1);
         }
-        same("33 is too far", far.echo(66) <= 32, true);
+        return x;
     }
 
     private static void compared() {
@@ -740,6 +766,11 @@ public final class PromisesTest {
         for (int n : new int[] {-1, 0, 401}) {
             same("n " + n, x.ahead(n, 13), -1);
         }
+        same("one", x.ahead(1, 13), 1);
+        same("400", x.ahead(400, 13), 400);
+        same("what 0", x.ahead(1, 0), 8);
+        same("what 28", x.ahead(1, 28), 0);
+        same("what 27", x.ahead(1, 27), 1);
         same("what 29", x.ahead(1, 29), -1);
         same("what -1", x.ahead(1, -1), -1);
         same("still", x.draw(3), 3);
@@ -763,6 +794,11 @@ public final class PromisesTest {
         z.start();
         same("no 16 alike", z.ahead(400, 14), 400);
         same("not by these", z.quiet(), -1);
+        NoiseWatch far = Check.with("log 40;seed 5;stuck 384 384 0;stuck 385 400 1;");
+        far.start();
+        same("401", far.quiet(), -1);
+        far.draw(1);
+        same("400", far.quiet(), 400);
         NoiseWatch last = Check.with(CALM + "bias 0;seed 9;stuck 400 9999 1;");
         last.start();
         Check.hand(last, "1");
@@ -804,6 +840,8 @@ public final class PromisesTest {
         z.start();
         Check.hand(z, "0101");
         same("CHANGES are alike for all", z.fit(), -1);
+        NoiseWatch more = heard("chance 15;log 1;window 4;start 0;", "0000000");
+        same("REPEATS of 14 is 7, of 15 12", more.fit(), 15);
     }
 
     private static void keen() {
@@ -813,8 +851,14 @@ public final class PromisesTest {
         same("REPEATS 4 by LOG 3", y.keen(), 3);
         NoiseWatch z = heard("chance 8;log 40;window 4;start 0;", "0101");
         same("CHANGES 4 by LOG 4", z.keen(), 4);
+        NoiseWatch mostly = heard("chance 8;log 40;start 0;", "111011101110111");
+        same("PROPORTION 13 by LOG 6", mostly.keen(), 6);
         NoiseWatch most = heard("log 40;start 0;", "000000000000000");
-        same("REPEATS 16", most.keen() > 1, true);
+        same("REPEATS 16 by LOG 10", most.keen(), 10);
+        NoiseWatch most8 = heard("chance 8;log 40;start 0;", "000000000000000");
+        same("REPEATS 16 by LOG 15", most8.keen(), 15);
+        Check.hand(most8, "1");
+        same("still", most8.keen(), 15);
         Check.hand(most, "0");
         same("16 alike: by none", most.keen(), -1);
     }
@@ -836,6 +880,7 @@ public final class PromisesTest {
     }
 
     private static void again() {
+        wholeImage();
         NoiseWatch x = Check.with("chance 9;log 3;window 5;start 4;block 2;bias 9;stick 1;seed 77;stuck 90 95 1;");
         for (int k = -1; k < 4; k++) {
             same("none " + k, x.again(k), false);
@@ -858,6 +903,59 @@ public final class PromisesTest {
         same("as often as one likes", x.again(1), true);
         texts("and goes on as it did", after(x), after);
         same("another", x.again(0), false);
+    }
+
+    /** Kept in the midst of a BLOCK, with all counts other than at first. */
+    private static void wholeImage() {
+        NoiseWatch x = busy();
+        x.image(2);
+        String all = all(x);
+        Check.hand(x, "1");
+        String on = all(x);
+        Check.tell(x, "seed 1;");
+        x.settings();
+        same("brought back", x.again(2), true);
+        texts("all", all(x), all);
+        Check.hand(x, "1");
+        texts("goes on with its BLOCK", all(x), on);
+        x.again(2);
+        x.start();
+        x.draw(100);
+        x.again(2);
+        texts("all", all(x), all);
+        same("0 of a text told since", x.count(28), 3);
+    }
+
+    /** WASTED, TAKEN, gone ones, ALARMS, a BLOCK that has begun, and a POOL whose first bits were taken. */
+    private static NoiseWatch busy() {
+        NoiseWatch x = Check.with("chance 8;log 40;start 0;block 3;out 16;seed 5;stick 2;");
+        x.start();
+        x.draw(390);
+        x.hand(0, 16);
+        same("an ALARM", x.count(11), 1);
+        x.start();
+        x.draw(400);
+        x.take(7);
+        Check.hand(x, "0");
+        x.tell(0x6c6f670000000000L);
+        for (int what = 9; what <= 28; what++) {
+            same("count(" + what + ") is not 0", x.count(what) != 0, true);
+        }
+        return x;
+    }
+
+    private static String all(NoiseWatch x) {
+        StringBuilder text = new StringBuilder(pooled(x));
+        for (int what = 0; what <= 28; what++) {
+            text.append(' ').append(x.count(what));
+        }
+        for (int k = 0; k < 400; k++) {
+            text.append(x.history(k));
+        }
+        for (int i = 0; i < 30; i++) {
+            text.append(x.row(i / 15, i % 15, false));
+        }
+        return text.append(x.fault(false)).append(x.fault(true)).append(x.ahead(400, 22)).append(x.quiet()).toString();
     }
 
     private static String after(NoiseWatch x) {
