@@ -44,7 +44,6 @@ public final class NoiseWatch {
     private final Watch now = new Watch();
     private final Watch trial = new Watch();
     private final Watch[] kept = new Watch[IMAGES];
-    private final boolean[] isKept = new boolean[IMAGES];
     private final Reader reader = new Reader();
     private final Bounds bounds = new Bounds();
     private final Odds odds = new Odds();
@@ -52,9 +51,6 @@ public final class NoiseWatch {
     private final Counts peaks = new Counts();
 
     public NoiseWatch() {
-        for (int k = 0; k < kept.length; k++) {
-            kept[k] = new Watch();
-        }
     }
 
     public int tell(long eight) {
@@ -165,20 +161,20 @@ public final class NoiseWatch {
     // ---- bounds
 
     public int bound(int what, int n, boolean under) {
-        if (what < COMMON || what > FOLLOW || !hasLatest(n, 2)) {
+        if (what < COMMON || what > FOLLOW || !loadLatest(n, 2)) {
             return NONE;
         }
-        bounds.measure(what, now.heard, n);
+        bounds.measure(what);
         return under ? bounds.below : bounds.above;
     }
 
     public int holds(int n) {
-        if (!hasLatest(n, 2)) {
+        if (!loadLatest(n, 2)) {
             return NONE;
         }
         int bits = 0;
         for (int what = COMMON; what <= FOLLOW; what++) {
-            bounds.measure(what, now.heard, n);
+            bounds.measure(what);
             if (bounds.holdsBy(what, now.settings.valueOf(CHANCE))) {
                 bits |= 1 << what;
             }
@@ -187,21 +183,21 @@ public final class NoiseWatch {
     }
 
     public int claim(int n) {
-        if (!hasLatest(n, 2)) {
+        if (!loadLatest(n, 2)) {
             return NONE;
         }
-        return Math.max(leastChance(COMMON, n), leastChance(FOLLOW, n));
+        return Math.max(leastChance(COMMON), leastChance(FOLLOW));
     }
 
     public int tuple(int n, int t) {
-        return hasTuples(n, t) ? bounds.mostOften(now.heard, n, t) : NONE;
+        return loadTuples(n, t) ? bounds.mostOften(t) : NONE;
     }
 
     public boolean spreads(int n, int t) {
-        if (!hasTuples(n, t)) {
+        if (!loadTuples(n, t)) {
             return false;
         }
-        long least = bounds.mostOften(now.heard, n, t);
+        long least = bounds.mostOften(t);
         long most = n - t + 1;
         for (int i = 0; i < t; i++) {
             least *= 16;
@@ -211,20 +207,20 @@ public final class NoiseWatch {
     }
 
     public int lag(int n, int d) {
-        if (d < 1 || d > MOST_LAG || d >= n || !hasLatest(n, 2)) {
+        if (d < 1 || d > MOST_LAG || d >= n || !loadLatest(n, 2)) {
             return NONE;
         }
-        return bounds.alikeAt(now.heard, n, d);
+        return bounds.alikeAt(d);
     }
 
     public int echo(int n) {
-        if (!hasLatest(n, 2)) {
+        if (!loadLatest(n, 2)) {
             return NONE;
         }
         int best = 1;
-        int bestAlike = bounds.alikeAt(now.heard, n, 1);
+        int bestAlike = bounds.alikeAt(1);
         for (int d = 2; d <= MOST_LAG && d < n; d++) {
-            int alike = bounds.alikeAt(now.heard, n, d);
+            int alike = bounds.alikeAt(d);
             if (alike * (n - best) > bestAlike * (n - d)) {
                 best = d;
                 bestAlike = alike;
@@ -251,11 +247,11 @@ public final class NoiseWatch {
     }
 
     public int longest(int n, boolean where) {
-        if (!hasLatest(n, 1)) {
+        if (!loadLatest(n, 1)) {
             return NONE;
         }
-        bounds.measureLongest(now.heard, n);
-        return where ? bounds.below : bounds.above;
+        bounds.measureLongest();
+        return where ? now.heard.size - n + bounds.below : bounds.above;
     }
 
     // ---- what would be
@@ -327,16 +323,18 @@ public final class NoiseWatch {
     // ---- kept
 
     public boolean image(int k) {
-        if (k < 0 || k >= kept.length || k >= isKept.length) {
+        if (k < 0 || k >= IMAGES) {
             return false;
         }
+        if (kept[k] == null) {
+            kept[k] = new Watch();
+        }
         kept[k].copyFrom(now);
-        isKept[k] = true;
         return true;
     }
 
     public boolean again(int k) {
-        if (k < 0 || k >= kept.length || k >= isKept.length || !isKept[k]) {
+        if (k < 0 || k >= IMAGES || kept[k] == null) {
             return false;
         }
         now.copyFrom(kept[k]);
@@ -348,16 +346,21 @@ public final class NoiseWatch {
         return odds.leastBy(now.settings.valueOf(LOG));
     }
 
-    private boolean hasLatest(int n, int least) {
-        return n >= least && n <= MOST_HEARD && n <= now.heard.size;
+    /** Brings the latest n SAMPLES to be measured; false, if there are not so many. */
+    private boolean loadLatest(int n, int least) {
+        if (n < least || n > now.heard.size) {
+            return false;
+        }
+        bounds.load(now.heard, n);
+        return true;
     }
 
-    private boolean hasTuples(int n, int t) {
-        return t >= 1 && t <= MOST_TUPLE && t <= n && hasLatest(n, 1);
+    private boolean loadTuples(int n, int t) {
+        return t >= 1 && t <= MOST_TUPLE && t <= n && loadLatest(n, 1);
     }
 
-    private int leastChance(int what, int n) {
-        bounds.measure(what, now.heard, n);
+    private int leastChance(int what) {
+        bounds.measure(what);
         for (int c = 8; c < 16; c++) {
             if (bounds.holdsBy(what, c)) {
                 return c;
@@ -1255,61 +1258,70 @@ public final class NoiseWatch {
         }
     }
 
-    /** What is measured of the latest n SAMPLES; callers see to it that there are so many. */
+    /** What is measured of the latest SAMPLES, which lie in a plain row, as they are read over and over. */
     private static final class Bounds {
         private static final int KINDS = 256;
 
+        private final int[] latest = new int[MOST_HEARD];
         private final int[] seen = new int[KINDS];
+        private int size = 0;
         private int above = 0;
         private int below = 0;
 
-        void measure(int what, Queue heard, int n) {
+        void load(Queue heard, int n) {
+            size = Math.max(0, Math.min(n, MOST_HEARD));
+            int first = heard.size - size;
+            for (int k = 0; k < size && k < MOST_HEARD; k++) {
+                latest[k] = heard.bitAt(first + k);
+            }
+        }
+
+        void measure(int what) {
             if (what == COMMON) {
-                measureCommon(heard, n);
+                measureCommon();
             } else if (what == COLLISION) {
-                measureCollision(heard, n);
+                measureCollision();
             } else {
-                measureFollow(heard, n);
+                measureFollow();
             }
         }
 
-        private void measureCommon(Queue heard, int n) {
+        private void measureCommon() {
             int ones = 0;
-            for (int k = heard.size - n; k < heard.size; k++) {
-                ones += heard.bitAt(k);
+            for (int k = 0; k < size; k++) {
+                ones += latest[k];
             }
-            above = Math.max(ones, n - ones);
-            below = n;
+            above = Math.max(ones, size - ones);
+            below = size;
         }
 
-        private void measureCollision(Queue heard, int n) {
+        private void measureCollision() {
             above = 0;
             below = 0;
-            int step = 0;
-            for (int k = heard.size - n; k + 1 < heard.size; k += step) {
-                step = heard.bitAt(k) == heard.bitAt(k + 1) ? 2 : 3;
-                if (k + step > heard.size) {
-                    return;
+            int k = 0;
+            while (k + 1 < size) {
+                int step = latest[k] == latest[k + 1] ? 2 : 3;
+                k += step;
+                if (k <= size) {
+                    above += step;
+                    below++;
                 }
-                above += step;
-                below++;
             }
         }
 
-        private void measureFollow(Queue heard, int n) {
+        private void measureFollow() {
             int ones = 0;
             int onesByOne = 0;
             int zerosByOne = 0;
-            for (int k = heard.size - n; k + 1 < heard.size; k++) {
-                int next = heard.bitAt(k + 1);
-                if (heard.bitAt(k) == 1) {
+            for (int k = 0; k + 1 < size; k++) {
+                if (latest[k] == 1) {
                     ones++;
-                    onesByOne += next;
+                    onesByOne += latest[k + 1];
                 } else {
-                    zerosByOne += next;
+                    zerosByOne += latest[k + 1];
                 }
             }
-            int zeros = n - 1 - ones;
+            int zeros = size - 1 - ones;
             int bestOfOnes = Math.max(onesByOne, ones - onesByOne);
             above = Math.max(zerosByOne, zeros - zerosByOne);
             below = zeros;
@@ -1326,15 +1338,14 @@ public final class NoiseWatch {
             return below * chance >= 16 * above;
         }
 
-        int mostOften(Queue heard, int n, int t) {
+        int mostOften(int t) {
             Arrays.fill(seen, 0);
-            int mask = (1 << t) - 1 & KINDS - 1;
-            int first = heard.size - n;
+            int mask = ((1 << t) - 1) & (KINDS - 1);
             int kind = 0;
             int most = 0;
-            for (int k = first; k < heard.size; k++) {
-                kind = (kind << 1 | heard.bitAt(k)) & mask;
-                if (k - first >= t - 1) {
+            for (int k = 0; k < size; k++) {
+                kind = (kind << 1 | latest[k]) & mask;
+                if (k >= t - 1) {
                     seen[kind]++;
                     most = Math.max(most, seen[kind]);
                 }
@@ -1342,10 +1353,13 @@ public final class NoiseWatch {
             return most;
         }
 
-        int alikeAt(Queue heard, int n, int d) {
+        int alikeAt(int d) {
+            if (d < 1) {
+                return 0;
+            }
             int alike = 0;
-            for (int k = heard.size - n + d; k < heard.size; k++) {
-                if (heard.bitAt(k) == heard.bitAt(k - d)) {
+            for (int k = d; k < size; k++) {
+                if (latest[k] == latest[k - d]) {
                     alike++;
                 }
             }
@@ -1353,13 +1367,12 @@ public final class NoiseWatch {
         }
 
         /** Above: how long the longest row of like SAMPLES is; below: where the first such begins. */
-        void measureLongest(Queue heard, int n) {
+        void measureLongest() {
             above = 0;
             below = 0;
-            int first = heard.size - n;
-            int begin = first;
-            for (int k = first; k < heard.size; k++) {
-                if (heard.bitAt(k) != heard.bitAt(begin)) {
+            int begin = 0;
+            for (int k = 0; k < size; k++) {
+                if (latest[k] != latest[begin]) {
                     begin = k;
                 }
                 if (k - begin + 1 > above) {

@@ -611,6 +611,8 @@ public final class PromisesTest {
         same("n 401", x.tuple(401, 1), -1);
         NoiseWatch y = heard("", "000000000000000");
         same("overlaps", y.tuple(15, 8), 8);
+        NoiseWatch z = heard("", "1110000000");
+        same("rows of the latest five alone", z.tuple(5, 3), 3);
     }
 
     private static void spreads() {
@@ -859,6 +861,8 @@ public final class PromisesTest {
         same("REPEATS 16 by LOG 15", most8.keen(), 15);
         Check.hand(most8, "1");
         same("still", most8.keen(), 15);
+        most8.settings();
+        same("all forgotten", most8.keen(), 1);
         Check.hand(most, "0");
         same("16 alike: by none", most.keen(), -1);
     }
@@ -912,8 +916,8 @@ public final class PromisesTest {
         String all = all(x);
         Check.hand(x, "1");
         String on = all(x);
-        Check.tell(x, "seed 1;");
-        x.settings();
+        Check.tell(x, " 20;seed 1;");
+        same("other settings", x.settings(), 0);
         same("brought back", x.again(2), true);
         texts("all", all(x), all);
         Check.hand(x, "1");
@@ -924,6 +928,16 @@ public final class PromisesTest {
         x.again(2);
         texts("all", all(x), all);
         same("0 of a text told since", x.count(28), 3);
+        NoiseWatch stuck = Check.with("bias 0;stick 15;stuck 0 0 1;seed 3;");
+        stuck.start();
+        stuck.draw(1);
+        stuck.image(0);
+        stuck.draw(1);
+        same("sticks to the 1", stuck.history(1), 1);
+        stuck.settings();
+        stuck.again(0);
+        stuck.draw(1);
+        same("sticks to it again", stuck.history(1), 1);
     }
 
     /** WASTED, TAKEN, gone ones, ALARMS, a BLOCK that has begun, and a POOL whose first bits were taken. */
@@ -936,7 +950,7 @@ public final class PromisesTest {
         x.start();
         x.draw(400);
         x.take(7);
-        Check.hand(x, "0");
+        Check.hand(x, "1");
         x.tell(0x6c6f670000000000L);
         for (int what = 9; what <= 28; what++) {
             same("count(" + what + ") is not 0", x.count(what) != 0, true);
@@ -955,7 +969,8 @@ public final class PromisesTest {
         for (int i = 0; i < 30; i++) {
             text.append(x.row(i / 15, i % 15, false));
         }
-        return text.append(x.fault(false)).append(x.fault(true)).append(x.ahead(400, 22)).append(x.quiet()).toString();
+        return text.append(x.fault(false)).append(x.fault(true)).append(x.ahead(400, 22)).append(x.quiet())
+            .append(x.fit()).append(x.keen()).append(x.replayed(8)).toString();
     }
 
     private static String after(NoiseWatch x) {
