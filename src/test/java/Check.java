@@ -20,6 +20,10 @@ final class Check {
         same(what, got ? 1 : 0, want ? 1 : 0);
     }
 
+    void same(String what, String got, String want) {
+        same(what + (got.equals(want) ? "" : ":\n  " + got + "\n  is due to be\n  " + want + "\n "), got.equals(want), true);
+    }
+
     boolean failed() {
         return wrong != 0;
     }
@@ -57,12 +61,49 @@ final class Check {
         return x;
     }
 
-    /** Tells SAMPLES by hand, written as 0 and 1: how many were listened to. */
+    /** Tells SAMPLES by hand, written as 0 and 1, up to 32 a call: how many were listened to. */
     static int hand(NoiseWatch x, String samples) {
         int heard = 0;
-        for (char sample : samples.toCharArray()) {
-            heard += x.hand(sample - '0', 1);
+        for (int at = 0; at < samples.length(); at += 32) {
+            String some = samples.substring(at, Math.min(samples.length(), at + 32));
+            heard += x.hand((int) Long.parseLong(some, 2), some.length());
         }
         return heard;
+    }
+
+    /** An object by these SETTINGS that STARTS and hears these SAMPLES. */
+    static NoiseWatch heard(String settings, String samples) {
+        NoiseWatch x = with(settings);
+        x.start();
+        hand(x, samples);
+        return x;
+    }
+
+    /** HISTORY from a place on, written as 0 and 1. */
+    static String history(NoiseWatch x, int from) {
+        StringBuilder text = new StringBuilder();
+        int size = x.count(26);
+        for (int k = from; k < size; k++) {
+            text.append(x.history(k));
+        }
+        return text.toString();
+    }
+
+    static String pool(NoiseWatch x) {
+        StringBuilder text = new StringBuilder();
+        int size = x.count(21);
+        for (int k = 0; k < size; k++) {
+            text.append(x.pool(k));
+        }
+        return text.toString();
+    }
+
+    static String row(NoiseWatch x, int row) {
+        StringBuilder text = new StringBuilder();
+        int size = x.row(row, 0, true);
+        for (int i = 0; i < size; i++) {
+            text.append(x.row(row, i, false));
+        }
+        return text.toString();
     }
 }
