@@ -172,6 +172,10 @@ public final class BoundsEdgesTest {
         holds("11 by 5: 2816 and 5 * 542", 15, "00010000000", 2, true);
         holds("2 by 1: 512 and 542", 15, "00", 2, false);
         holds("3 by 1: 768 and 640", 8, "010", 2, true);
+        String three = "010" + "101";
+        String two = "00" + "11";
+        holds("322 by 129: 82432 and 82560", 8, three.repeat(32) + two.repeat(32) + "00", 2, false);
+        holds("323 by 129: 82688 and 82560", 8, three.repeat(32) + two.repeat(32) + "010", 2, true);
         CHECK.part("(bits; 0 by 0 does)");
         holds("0 by 0", 8, "01", 2, true);
         holds("0 by 0", 15, "10", 2, true);
@@ -207,6 +211,9 @@ public final class BoundsEdgesTest {
         for (int chance : new int[] {8, 15}) {
             same("whatever CHANCE is", of(chance, "00110").claim(5), 10);
         }
+        same("15 of 16, 14 by 15: 15", of("1111111111111110").claim(16), 15);
+        same("7 of 8, 6 by 7: 14", of("11111110").claim(8), 14);
+        same("4 of 5, 3 by 4: 13", of("11110").claim(5), 13);
         CHECK.part("claim: both sides of it");
         for (String samples : new String[] {"0110100111", "001100110", "0010110", "00110", MIXED, "0001101011100101"}) {
             int n = samples.length();
@@ -395,6 +402,14 @@ public final class BoundsEdgesTest {
         Check.hand(z, "1");
         same("three ROWS", z.compared(2), 2);
         same("three have 15", z.compared(0), 3);
+        for (int column = 0; column < 15; column++) {
+            NoiseWatch one = Check.with("log 40;start 0;");
+            StringBuilder other = new StringBuilder("101010101010101");
+            other.setCharAt(column, (char) ('0' + column % 2));
+            row(one, "010101010101010");
+            row(one, other.toString());
+            same("two alike in column " + column, one.compared(2), 2);
+        }
         CHECK.part("compared, NONE: another what.");
         for (int what : new int[] {LEAST, -1, 5, 6, MOST}) {
             States.refused(CHECK, "compared(" + what + ")", w -> w.compared(what));

@@ -911,23 +911,25 @@ public final class PromisesTest {
 
     /** Kept in the midst of a BLOCK, with all counts other than at first. */
     private static void wholeImage() {
+        String all = all(busy());
+        NoiseWatch one = busy();
+        Check.hand(one, "1");
+        String on = all(one);
         NoiseWatch x = busy();
         x.image(2);
-        String all = all(x);
-        Check.hand(x, "1");
-        String on = all(x);
         Check.tell(x, " 20;seed 1;");
         same("other settings", x.settings(), 0);
         same("brought back", x.again(2), true);
         texts("all", all(x), all);
         Check.hand(x, "1");
         texts("goes on with its BLOCK", all(x), on);
-        x.again(2);
-        x.start();
-        x.draw(100);
-        x.again(2);
-        texts("all", all(x), all);
-        same("0 of a text told since", x.count(28), 3);
+        NoiseWatch y = busy();
+        y.image(2);
+        y.start();
+        y.draw(100);
+        y.again(2);
+        texts("all", all(y), all);
+        same("0 of a text told since", y.count(28), 3);
         NoiseWatch stuck = Check.with("bias 0;stick 15;stuck 0 0 1;seed 3;");
         stuck.start();
         stuck.draw(1);
@@ -959,12 +961,13 @@ public final class PromisesTest {
     }
 
     private static String all(NoiseWatch x) {
-        StringBuilder text = new StringBuilder(pooled(x));
+        StringBuilder text = new StringBuilder();
         for (int what = 0; what <= 28; what++) {
             text.append(' ').append(x.count(what));
         }
-        for (int k = 0; k < 400; k++) {
-            text.append(x.history(k));
+        // Some of the bits alone: an object has no more than 512 calls.
+        for (int k = 0; k < 400; k += 7) {
+            text.append(x.history(k)).append(x.pool(k / 2));
         }
         for (int i = 0; i < 30; i++) {
             text.append(x.row(i / 15, i % 15, false));
@@ -975,14 +978,14 @@ public final class PromisesTest {
 
     private static String after(NoiseWatch x) {
         StringBuilder text = new StringBuilder();
-        for (int i = 0; i < 30; i++) {
+        for (int i = 0; i < 20; i++) {
             text.append(x.draw(5)).append(' ').append(x.count(10)).append(' ').append(x.take(1)).append(' ');
             if (x.count(9) == 3) {
                 text.append(x.start()).append(' ');
             }
         }
-        for (int k = 0; k < 100; k++) {
-            text.append(x.history(k)).append(x.row(k % 15, k % 7, false));
+        for (int k = 0; k < 30; k++) {
+            text.append(x.history(3 * k)).append(x.row(k % 15, k % 7, false));
         }
         return text.append(x.compared(2)).toString();
     }

@@ -8,15 +8,28 @@ public final class RandomRunsTest {
     private static final int[] LOW = {8, 1, 4, 0, 2, 1, 0, 0, 0};
     private static final int[] HIGH = {15, 40, 15, 200, 64, 16, 16, 15, 9999};
 
+    /** An object is used for at most 512 calls: room is left for a text of 300 bytes and all counts. */
+    private static final int FEW_LEFT = 430;
+
     private final Random random;
     private final Check check;
     private final NoiseWatch x = new NoiseWatch();
     private final PlainModel m = new PlainModel();
+    private int calls = 0;
 
     private RandomRunsTest(long seed, Check check) {
         random = new Random(seed);
         this.check = check;
         check.part("seed " + seed);
+    }
+
+    private void due(String what, long got, long want) {
+        calls++;
+        check.same(what, got, want);
+    }
+
+    private void due(String what, boolean got, boolean want) {
+        due(what, got ? 1 : 0, want ? 1 : 0);
     }
 
     private int below(int n) {
@@ -69,12 +82,12 @@ public final class RandomRunsTest {
         String text = script();
         for (int at = 0; at < text.length(); at += 8) {
             long eight = Check.eight(text.substring(at, Math.min(text.length(), at + 8)));
-            check.same("tell(" + eight + ")", x.tell(eight), m.tell(eight));
+            due("tell(" + eight + ")", x.tell(eight), m.tell(eight));
         }
         if (below(8) != 0) {
-            check.same("settings() of " + text, x.settings(), m.settings());
-            check.same("fault()", x.fault(false), m.fault(false));
-            check.same("fault(place)", x.fault(true), m.fault(true));
+            due("settings() of " + text, x.settings(), m.settings());
+            due("fault()", x.fault(false), m.fault(false));
+            due("fault(place)", x.fault(true), m.fault(true));
         }
     }
 
@@ -97,31 +110,31 @@ public final class RandomRunsTest {
     private void act() {
         int n;
         switch (below(14)) {
-            case 0 -> check.same("stop()", x.stop(), m.stop());
-            case 1, 2, 3 -> check.same("start()", x.start(), m.start());
+            case 0 -> due("stop()", x.stop(), m.stop());
+            case 1, 2, 3 -> due("start()", x.start(), m.start());
             case 4, 5, 6 -> {
                 n = from(1, 40);
-                check.same("draw(" + n + ")", x.draw(n), m.draw(n));
+                due("draw(" + n + ")", x.draw(n), m.draw(n));
             }
             case 7 -> {
                 n = from(-1, 402);
-                check.same("draw(" + n + ")", x.draw(n), m.draw(n));
+                due("draw(" + n + ")", x.draw(n), m.draw(n));
             }
             case 8, 9, 10 -> {
                 n = from(0, 33);
                 int bits = random.nextInt();
-                check.same("hand(" + bits + "," + n + ")", x.hand(bits, n), m.hand(bits, n));
+                due("hand(" + bits + "," + n + ")", x.hand(bits, n), m.hand(bits, n));
             }
             case 11, 12 -> {
                 n = from(0, 31);
-                check.same("take(" + n + ")", x.take(n), m.take(n));
+                due("take(" + n + ")", x.take(n), m.take(n));
             }
             default -> {
                 int k = from(-1, 3);
                 if (below(2) == 0) {
-                    check.same("image(" + k + ")", x.image(k), m.image(k));
+                    due("image(" + k + ")", x.image(k), m.image(k));
                 } else {
-                    check.same("again(" + k + ")", x.again(k), m.again(k));
+                    due("again(" + k + ")", x.again(k), m.again(k));
                 }
             }
         }
@@ -133,13 +146,13 @@ public final class RandomRunsTest {
         int i = from(-1, 15);
         boolean flag = below(2) == 0;
         switch (below(7)) {
-            case 0 -> check.same("limit(" + few + ")", limit(x, few), limit(m, few));
-            case 1 -> check.same("limit(" + (few + 10) + ")", limit(x, few + 10), limit(m, few + 10));
-            case 2 -> check.same("odds(" + few % 3 + "," + flag + ")", x.odds(few % 3, flag), m.odds(few % 3, flag));
-            case 3 -> check.same("history(" + k + ")", x.history(k), m.history(k));
-            case 4 -> check.same("history(" + few + ")", x.history(few), m.history(few));
-            case 5 -> check.same("pool(" + k % 260 + ")", x.pool(k % 260), m.pool(k % 260));
-            default -> check.same("row(" + few + "," + i + "," + flag + ")", x.row(few, i, flag), m.row(few, i, flag));
+            case 0 -> due("limit(" + few + ")", limit(x, few), limit(m, few));
+            case 1 -> due("limit(" + (few + 10) + ")", limit(x, few + 10), limit(m, few + 10));
+            case 2 -> due("odds(" + few % 3 + "," + flag + ")", x.odds(few % 3, flag), m.odds(few % 3, flag));
+            case 3 -> due("history(" + k + ")", x.history(k), m.history(k));
+            case 4 -> due("history(" + few + ")", x.history(few), m.history(few));
+            case 5 -> due("pool(" + k % 260 + ")", x.pool(k % 260), m.pool(k % 260));
+            default -> due("row(" + few + "," + i + "," + flag + ")", x.row(few, i, flag), m.row(few, i, flag));
         }
     }
 
@@ -156,15 +169,15 @@ public final class RandomRunsTest {
         int what = from(-1, 5);
         boolean flag = below(2) == 0;
         switch (below(9)) {
-            case 0 -> check.same("bound(" + what + "," + n + "," + flag + ")", x.bound(what, n, flag), m.bound(what, n, flag));
-            case 1 -> check.same("holds(" + n + ")", x.holds(n), m.holds(n));
-            case 2 -> check.same("claim(" + n + ")", x.claim(n), m.claim(n));
-            case 3 -> check.same("tuple(" + n + "," + t + ")", x.tuple(n, t), m.tuple(n, t));
-            case 4 -> check.same("spreads(" + n + "," + t + ")", x.spreads(n, t), m.spreads(n, t));
-            case 5 -> check.same("lag(" + n + "," + d + ")", x.lag(n, d), m.lag(n, d));
-            case 6 -> check.same("echo(" + n + ")", x.echo(n), m.echo(n));
-            case 7 -> check.same("compared(" + what + ")", x.compared(what), m.compared(what));
-            default -> check.same("longest(" + n + "," + flag + ")", x.longest(n, flag), m.longest(n, flag));
+            case 0 -> due("bound(" + what + "," + n + "," + flag + ")", x.bound(what, n, flag), m.bound(what, n, flag));
+            case 1 -> due("holds(" + n + ")", x.holds(n), m.holds(n));
+            case 2 -> due("claim(" + n + ")", x.claim(n), m.claim(n));
+            case 3 -> due("tuple(" + n + "," + t + ")", x.tuple(n, t), m.tuple(n, t));
+            case 4 -> due("spreads(" + n + "," + t + ")", x.spreads(n, t), m.spreads(n, t));
+            case 5 -> due("lag(" + n + "," + d + ")", x.lag(n, d), m.lag(n, d));
+            case 6 -> due("echo(" + n + ")", x.echo(n), m.echo(n));
+            case 7 -> due("compared(" + what + ")", x.compared(what), m.compared(what));
+            default -> due("longest(" + n + "," + flag + ")", x.longest(n, flag), m.longest(n, flag));
         }
     }
 
@@ -173,17 +186,17 @@ public final class RandomRunsTest {
         int what = from(-1, 29);
         int c = from(7, 16);
         switch (below(6)) {
-            case 0, 1 -> check.same("ahead(" + n + "," + what + ")", x.ahead(n, what), m.ahead(n, what));
-            case 2 -> check.same("quiet()", x.quiet(), m.quiet());
-            case 3 -> check.same("replayed(" + c + ")", x.replayed(c), m.replayed(c));
-            case 4 -> check.same("fit()", x.fit(), m.fit());
-            default -> check.same("keen()", x.keen(), m.keen());
+            case 0, 1 -> due("ahead(" + n + "," + what + ")", x.ahead(n, what), m.ahead(n, what));
+            case 2 -> due("quiet()", x.quiet(), m.quiet());
+            case 3 -> due("replayed(" + c + ")", x.replayed(c), m.replayed(c));
+            case 4 -> due("fit()", x.fit(), m.fit());
+            default -> due("keen()", x.keen(), m.keen());
         }
     }
 
-    private void askCounts() {
-        for (int what = -1; what <= 29; what++) {
-            check.same("count(" + what + ")", x.count(what), m.count(what));
+    private void askCounts(int from, int to) {
+        for (int what = from; what <= to; what++) {
+            due("count(" + what + ")", x.count(what), m.count(what));
         }
     }
 
@@ -191,13 +204,14 @@ public final class RandomRunsTest {
         if (below(10) != 0) {
             tellScript();
         }
-        for (int i = 0; i < 120 && !check.failed(); i++) {
+        while (calls < FEW_LEFT && !check.failed()) {
             int kind = below(100);
             if (kind < 2) {
                 tellScript();
             } else if (kind < 42) {
                 act();
-                askCounts();
+                int what = from(-1, 25);
+                askCounts(what, what + 4);
             } else if (kind < 58) {
                 askParts();
             } else if (kind < 86) {
@@ -206,12 +220,12 @@ public final class RandomRunsTest {
                 askAhead();
             }
         }
-        askCounts();
+        askCounts(-1, 29);
     }
 
     public static void main(String[] args) {
         Check check = new Check();
-        int runs = args.length > 0 ? Integer.parseInt(args[0]) : 1500;
+        int runs = args.length > 0 ? Integer.parseInt(args[0]) : 2000;
         for (int seed = 0; seed < runs && !check.failed(); seed++) {
             new RandomRunsTest(seed, check).run();
         }

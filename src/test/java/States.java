@@ -19,6 +19,7 @@ final class States {
         ALL.put("STARTS", States::starting);
         ALL.put("RUNS", States::running);
         ALL.put("ALARM", States::alarmed);
+        ALL.put("all full", States::full);
     }
 
     private States() {
@@ -37,6 +38,22 @@ final class States {
         x.settings();
         Check.tell(x, "log 7");
         x.draw(30);
+        return x;
+    }
+
+    /** HISTORY went round, the POOL is full and WASTED some, a BLOCK has begun with ones; nothing counted is 0. */
+    static NoiseWatch full() {
+        NoiseWatch x = Check.with("chance 8;log 40;start 0;block 3;out 16;seed 5;stick 2;stuck 9990 9999 1;");
+        x.start();
+        x.draw(390);
+        x.hand(0, 16);
+        x.start();
+        x.draw(400);
+        x.take(7);
+        x.hand(1, 2);
+        x.hand(3, 2);
+        x.image(0);
+        Check.tell(x, "log");
         return x;
     }
 

@@ -265,6 +265,9 @@ public final class TextEdgesTest {
             read(word + ";", 1, word.length());
             read(word, 1, word.length());
             read(word.toUpperCase() + "8;", 1, 0);
+            for (int i = 0; i < word.length(); i++) {
+                read(word.substring(0, i) + "z" + word.substring(i + 1) + "8;", 1, 0);
+            }
         }
     }
 
@@ -333,6 +336,24 @@ public final class TextEdgesTest {
         NoiseWatch z = Check.with("log 7;stuck 3 4 1;");
         z.image(0);
         CHECK.same("as at first, but as told", States.whole(y), States.whole(z));
+        NoiseWatch all = States.full();
+        for (int what = 8; what <= 28; what++) {
+            same("count(" + what + ") is not 0", all.count(what) != 0 || what == 19 ? 1 : 0, 1);
+        }
+        Check.tell(all, " 20;");
+        same("of one that is full", all.settings(), 0);
+        NoiseWatch first = new NoiseWatch();
+        all.image(0);
+        first.image(0);
+        CHECK.same("as at first", States.whole(all), States.whole(first));
+        CHECK.part("all is as at first: none was DRAWN ahead");
+        NoiseWatch stuck = Check.with("bias 16;");
+        stuck.draw(9);
+        Check.tell(stuck, "bias 16;stick 15;seed 1;");
+        same("told anew", stuck.settings(), 0);
+        stuck.start();
+        stuck.draw(1);
+        same("0 for the first one", stuck.history(0), 0);
         CHECK.part("NONE: a FAULT (all but THE TEXT, the FAULT stays)");
         NoiseWatch f = new NoiseWatch();
         Check.tell(f, "log 3;log");

@@ -29,7 +29,7 @@ public final class WouldBeEdgesTest {
             States.refused(CHECK, "ahead(400, " + what + ")", x -> x.ahead(400, what));
         }
         for (int n : new int[] {1, 2, 37, 399, 400}) {
-            for (int state = 0; state < 5; state++) {
+            for (int state = 0; state < 6; state++) {
                 NoiseWatch asked = state(state);
                 NoiseWatch drawn = state(state);
                 drawn.draw(n);
@@ -54,6 +54,8 @@ public final class WouldBeEdgesTest {
                 return States.starting();
             case 3:
                 return States.running();
+            case 4:
+                return States.full();
             default:
                 return States.alarmed();
         }
@@ -143,6 +145,11 @@ public final class WouldBeEdgesTest {
         Check.hand(v, "1010");
         same("0101 1001 1010", v.replayed(15), 2);
         same("nothing heard", new NoiseWatch().replayed(8), 0);
+        NoiseWatch end = Check.heard("chance 15;log 3;window 4;start 0;", "010");
+        same("2 changes and nothing behind", end.replayed(15), 0);
+        same("nor by another CHANCE", end.replayed(10), 0);
+        same("fit() alike", end.fit(), 8);
+        same("keen() alike: CHANGES 2 by LOG 1, 3 by LOG 2", end.keen(), 2);
         CHECK.part("replayed: SETTINGS, START and the ALARM stay");
         NoiseWatch z = States.alarmed();
         z.replayed(8);
@@ -202,6 +209,19 @@ public final class WouldBeEdgesTest {
             Check.hand(by, "010101010101011");
             same("by LOG " + log, by.count(11), log < 11 ? 1 : 0);
         }
+        CHECK.part("keen, fit, replayed: as often as they are asked");
+        NoiseWatch often = Check.with("chance 8;log 15;start 0;");
+        often.start();
+        often.hand(0, 15);
+        for (int i = 0; i < 3; i++) {
+            same("keen", often.keen(), 15);
+            same("replayed", often.replayed(8), 0);
+            same("fit", often.fit(), 8);
+        }
+        often.settings();
+        same("keen of nothing heard", often.keen(), 1);
+        same("replayed of nothing heard", often.replayed(8), 0);
+        same("fit of nothing heard", often.fit(), 8);
         CHECK.part("keen: (all other SETTINGS alike)");
         NoiseWatch by9 = Check.with("chance 9;log 40;window 4;start 0;");
         by9.start();
@@ -235,7 +255,7 @@ public final class WouldBeEdgesTest {
         for (int k : new int[] {LEAST, -3, -1, 3, 4, MOST}) {
             States.refused(CHECK, "image(" + k + ")", x -> x.image(k) ? 1 : 0, 0);
         }
-        for (int state = 0; state < 5; state++) {
+        for (int state = 0; state < 6; state++) {
             for (int k = 0; k <= 2; k++) {
                 NoiseWatch x = state(state);
                 same("image(" + k + ") of " + state, x.image(k) ? 1 : 0, 1);
@@ -255,8 +275,48 @@ public final class WouldBeEdgesTest {
                 CHECK.same("as it was, " + state, States.whole(x), States.whole(due));
             }
         }
+        CHECK.part("All that there is .. is kept: HISTORY that went round, whole");
+        String heard = Check.history(States.full(), 0);
+        NoiseWatch round = States.full();
+        Check.tell(round, " 20;");
+        round.settings();
+        round.start();
+        for (int i = 0; i < 17; i++) {
+            round.hand(0x55555555, 32);
+        }
+        same("none of it is left", round.longest(400, false), 1);
+        same("again", round.again(0) ? 1 : 0, 1);
+        CHECK.same("HISTORY", Check.history(round, 0), heard);
+        CHECK.part("All that there is .. is kept: what is of the BLOCK, ROWS that are short");
+        NoiseWatch block = Check.heard(CALM + "block 4;out 16;", "10");
+        block.start();
+        Check.hand(block, "11");
+        block.image(1);
+        Check.hand(block, "01");
+        String pool = Check.pool(block);
+        block.start();
+        Check.hand(block, "0000");
+        block.again(1);
+        CHECK.same("the second ROW", Check.row(block, 1), "11");
+        Check.hand(block, "01");
+        CHECK.same("the register", Check.pool(block), pool);
+        block.start();
+        Check.hand(block, "0010");
+        Check.hand(block, "1");
+        block.again(1);
+        Check.hand(block, "01");
+        CHECK.same("the register behind another", Check.pool(block), pool);
+        block.settings();
+        for (int i = 0; i < 3; i++) {
+            block.start();
+            Check.hand(block, "1010101");
+        }
+        block.again(1);
+        CHECK.same("the first ROW", Check.row(block, 0), "10");
+        CHECK.same("the second ROW", Check.row(block, 1), "11");
+        same("no third ROW", block.row(2, 0, true), -1);
         CHECK.part("image: nothing but what is kept changes");
-        for (int state = 0; state < 5; state++) {
+        for (int state = 0; state < 6; state++) {
             NoiseWatch x = state(state);
             x.image(0);
             NoiseWatch due = state(state);
@@ -354,7 +414,7 @@ public final class WouldBeEdgesTest {
     private static void neverThrown() {
         CHECK.part("LANGUAGE 7: No call may ever throw by itself, for any arguments in any state");
         int calls = 0;
-        for (int state = 0; state < 5; state++) {
+        for (int state = 0; state < 6; state++) {
             for (int a : ODD_NUMBERS) {
                 for (int b : ODD_NUMBERS) {
                     NoiseWatch x = state(state);
@@ -374,7 +434,7 @@ public final class WouldBeEdgesTest {
                 }
             }
         }
-        same("asked", calls, 5 * ODD_NUMBERS.length * ODD_NUMBERS.length);
+        same("asked", calls, 6 * ODD_NUMBERS.length * ODD_NUMBERS.length);
     }
 
     public static void main(String[] args) {
