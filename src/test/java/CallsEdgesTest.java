@@ -297,8 +297,39 @@ public final class CallsEdgesTest {
         }
     }
 
+    private static void calls512() {
+        CHECK.part("An object is used for at most 512 calls after it has been made");
+        NoiseWatch drawn = Check.with("chance 15;log 40;seed 4;");
+        drawn.start();
+        for (int i = 0; i < 500; i++) {
+            drawn.draw(400);
+        }
+        same("all DRAWN", drawn.count(13), 200000);
+        NoiseWatch started = new NoiseWatch();
+        for (int i = 1; i <= 511; i++) {
+            same("STARTS", started.start(), i);
+        }
+        same("the 512th call", started.count(12), 511);
+        NoiseWatch told = new NoiseWatch();
+        for (int i = 1; i <= 37; i++) {
+            told.tell(0x2020202020202020L);
+        }
+        for (int i = 38; i <= 511; i++) {
+            same("no room", told.tell(0x2020202020202020L), -1);
+        }
+        same("the 512th call", told.count(28), 296);
+        NoiseWatch taken = Check.with(CALM + "block 16;out 16;");
+        taken.start();
+        for (int i = 0; i < 240; i++) {
+            same("11 bits come", taken.hand(0x6996d3a5, 16), 16);
+            same("11 are taken", taken.take(11) >= 0 ? 1 : 0, 1);
+        }
+        counts("all were taken", taken, 20, 0, 0, 2640, 0, 2640, 0);
+    }
+
     public static void main(String[] args) {
         newObject();
+        calls512();
         start();
         stop();
         draw();

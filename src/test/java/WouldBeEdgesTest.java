@@ -288,23 +288,23 @@ public final class WouldBeEdgesTest {
         same("again", round.again(0) ? 1 : 0, 1);
         CHECK.same("HISTORY", Check.history(round, 0), heard);
         CHECK.part("All that there is .. is kept: what is of the BLOCK, ROWS that are short");
-        NoiseWatch block = Check.heard(CALM + "block 4;out 16;", "10");
+        NoiseWatch block = Check.heard(CALM + "block 16;out 16;", "10");
         block.start();
-        Check.hand(block, "11");
+        Check.hand(block, "11010001");
         block.image(1);
-        Check.hand(block, "01");
+        Check.hand(block, "10010111");
         String pool = Check.pool(block);
         block.start();
         Check.hand(block, "0000");
         block.again(1);
-        CHECK.same("the second ROW", Check.row(block, 1), "11");
-        Check.hand(block, "01");
+        CHECK.same("the second ROW", Check.row(block, 1), "11010001");
+        Check.hand(block, "10010111");
         CHECK.same("the register", Check.pool(block), pool);
+        CHECK.same("11 bits of 1101000110010111", pool, "10101001000");
         block.start();
-        Check.hand(block, "0010");
-        Check.hand(block, "1");
+        Check.hand(block, "00101110");
         block.again(1);
-        Check.hand(block, "01");
+        Check.hand(block, "10010111");
         CHECK.same("the register behind another", Check.pool(block), pool);
         block.settings();
         for (int i = 0; i < 3; i++) {
@@ -313,7 +313,7 @@ public final class WouldBeEdgesTest {
         }
         block.again(1);
         CHECK.same("the first ROW", Check.row(block, 0), "10");
-        CHECK.same("the second ROW", Check.row(block, 1), "11");
+        CHECK.same("the second ROW", Check.row(block, 1), "11010001");
         same("no third ROW", block.row(2, 0, true), -1);
         CHECK.part("image: nothing but what is kept changes");
         for (int state = 0; state < 6; state++) {
