@@ -5,7 +5,7 @@ public final class BoundsEdgesTest {
     private static final Check CHECK = new Check();
     private static final int LEAST = Integer.MIN_VALUE;
     private static final int MOST = Integer.MAX_VALUE;
-    /** Nothing is heard of any ALARM below 16 alike. */
+    /** No ALARM comes below 16 alike. */
     private static final String CALM = "log 40;";
     private static final String MIXED = "0110100110010110";
 
@@ -21,7 +21,7 @@ public final class BoundsEdgesTest {
         return Check.heard(CALM + "chance " + chance + ";", samples);
     }
 
-    /** HISTORY of so many SAMPLES, no more than 7 alike. */
+    /** HISTORY of so many SAMPLES, no more than 2 alike. */
     private static NoiseWatch many(int n) {
         return of(MIXED.repeat(26).substring(0, n));
     }
@@ -359,7 +359,7 @@ public final class BoundsEdgesTest {
         latest("echo", NoiseWatch::echo, 2, -1);
     }
 
-    /** A row with no echo of its own that is whole: it begins with 0, all others but the last few are mixed. */
+    /** A row of mixed SAMPLES that is no shorter row over and over. */
     private static String period(int d) {
         return "0011101000010010110011111000110111".substring(0, d - 1) + "1";
     }
