@@ -1288,7 +1288,7 @@ public final class NoiseWatch {
 
         private void measureCommon() {
             int ones = 0;
-            for (int k = 0; k < size; k++) {
+            for (int k = 0; k < size && k < MOST_HEARD; k++) {
                 ones += latest[k];
             }
             above = Math.max(ones, size - ones);
@@ -1299,7 +1299,7 @@ public final class NoiseWatch {
             above = 0;
             below = 0;
             int k = 0;
-            while (k + 1 < size) {
+            while (k + 1 < size && k + 1 < MOST_HEARD) {
                 int step = latest[k] == latest[k + 1] ? 2 : 3;
                 k += step;
                 if (k <= size) {
@@ -1313,7 +1313,7 @@ public final class NoiseWatch {
             int ones = 0;
             int onesByOne = 0;
             int zerosByOne = 0;
-            for (int k = 0; k + 1 < size; k++) {
+            for (int k = 0; k + 1 < size && k + 1 < MOST_HEARD; k++) {
                 if (latest[k] == 1) {
                     ones++;
                     onesByOne += latest[k + 1];
@@ -1343,7 +1343,7 @@ public final class NoiseWatch {
             int mask = ((1 << t) - 1) & (KINDS - 1);
             int kind = 0;
             int most = 0;
-            for (int k = 0; k < size; k++) {
+            for (int k = 0; k < size && k < MOST_HEARD; k++) {
                 kind = (kind << 1 | latest[k]) & mask;
                 if (k >= t - 1) {
                     seen[kind]++;
@@ -1358,7 +1358,7 @@ public final class NoiseWatch {
                 return 0;
             }
             int alike = 0;
-            for (int k = d; k < size; k++) {
+            for (int k = d; k < size && k < MOST_HEARD; k++) {
                 if (latest[k] == latest[k - d]) {
                     alike++;
                 }
@@ -1371,7 +1371,7 @@ public final class NoiseWatch {
             above = 0;
             below = 0;
             int begin = 0;
-            for (int k = 0; k < size; k++) {
+            for (int k = 0; k < size && k < MOST_HEARD; k++) {
                 if (latest[k] != latest[begin]) {
                     begin = k;
                 }

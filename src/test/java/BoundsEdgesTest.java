@@ -90,6 +90,10 @@ public final class BoundsEdgesTest {
         whole("0110100111", 1, 9, 3);
         fraction("0100", 1, 3, 3, 1);
         fraction("0100", 1, 2, 2, 1);
+        CHECK.part("COLLISION of 400: the last step ends with the last SAMPLE");
+        whole("0011".repeat(100), 1, 400, 200);
+        whole("010" + "0011".repeat(98) + "00" + "010", 1, 400, 199);
+        whole("010" + "0011".repeat(98) + "00" + "01", 1, 397, 198);
         CHECK.part("(COLLISION without a step: 0 by 0)");
         whole("01", 1, 0, 0);
         whole("10", 1, 0, 0);
@@ -127,6 +131,9 @@ public final class BoundsEdgesTest {
         fraction("0111", 2, 3, 2, 2);
         fraction("1110", 2, 2, 1, 1);
         fraction("1101", 2, 2, 1, 1);
+        CHECK.part("FOLLOW of 400: the last one but one is followed by the last");
+        whole("0011".repeat(100), 2, 100, 199);
+        whole("1100".repeat(100), 2, 100, 199);
     }
 
     private static void bound() {

@@ -602,21 +602,23 @@ final class PlainModel {
         int[] all = new int[5];
         List<List<Integer>> full = new ArrayList<>();
         List<List<Integer>> rows = rows();
+        int mostOfRow = limit(25);
         for (int r = 0; r < rows.size(); r++) {
             if (rows.get(r).size() == 15) {
                 full.add(rows.get(r));
                 all[1] = Math.max(all[1], more(rows.get(r)));
-                all[3] |= more(rows.get(r)) > limit(25) ? 1 << r : 0;
+                all[3] |= more(rows.get(r)) > mostOfRow ? 1 << r : 0;
             }
         }
         all[0] = full.size();
+        int mostOfColumn = full.size() > 1 ? limit(10 + full.size()) : 0;
         for (int j = 0; j < 15 && full.size() > 1; j++) {
             List<Integer> column = new ArrayList<>();
             for (List<Integer> row : full) {
                 column.add(row.get(j));
             }
             all[2] = Math.max(all[2], more(column));
-            all[4] |= more(column) > limit(10 + full.size()) ? 1 << j : 0;
+            all[4] |= more(column) > mostOfColumn ? 1 << j : 0;
         }
         return what < 0 || what > 4 ? NONE : all[what];
     }

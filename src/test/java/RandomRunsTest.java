@@ -69,6 +69,10 @@ public final class RandomRunsTest {
             String odd = "Z;0a \t%\u00e9";
             text.insert(below(text.length()), odd.charAt(below(odd.length())));
         }
+        if (below(12) == 0 && text.length() > 0) {
+            String[] tokens = {" log ", " stuck ", " x ", " 9 ", " ; ", " 10000 "};
+            text.insert(below(text.length()), tokens[below(tokens.length)]);
+        }
         if (below(25) == 0) {
             text.append("start 12345;");
         }
@@ -80,15 +84,23 @@ public final class RandomRunsTest {
 
     private void tellScript() {
         String text = script();
+        tellText(text);
+        if (below(8) != 0) {
+            readText(text);
+        }
+    }
+
+    private void tellText(String text) {
         for (int at = 0; at < text.length(); at += 8) {
             long eight = Check.eight(text.substring(at, Math.min(text.length(), at + 8)));
             due("tell(" + eight + ")", x.tell(eight), m.tell(eight));
         }
-        if (below(8) != 0) {
-            due("settings() of " + text, x.settings(), m.settings());
-            due("fault()", x.fault(false), m.fault(false));
-            due("fault(place)", x.fault(true), m.fault(true));
-        }
+    }
+
+    private void readText(String text) {
+        due("settings() of " + text, x.settings(), m.settings());
+        due("fault()", x.fault(false), m.fault(false));
+        due("fault(place)", x.fault(true), m.fault(true));
     }
 
     private static int limit(NoiseWatch x, int what) {
@@ -200,6 +212,66 @@ public final class RandomRunsTest {
         }
     }
 
+    /** As many of one value as REPEAT lets be, so that ROWS come near their limit and beyond it. */
+    private int unevenRow() {
+        int most = m.limit(0) - 1;
+        int value = below(2);
+        int alike = 0;
+        int bits = 0;
+        for (int i = 0; i < 15; i++) {
+            boolean other = alike >= most || below(30) == 0;
+            alike = other ? 0 : alike + 1;
+            bits = bits << 1 | (other ? 1 - value : value);
+        }
+        return bits;
+    }
+
+    /** Restarts that are much alike: without them no ROW and no column would be ODD. */
+    private void runOfRows() {
+        String text = "chance " + from(8, 10) + ";log " + from(1, 7) + ";window " + from(4, 15) + ";start " + from(0, 4)
+            + ";";
+        tellText(text);
+        readText(text);
+        int bits = unevenRow();
+        while (calls < FEW_LEFT && !check.failed()) {
+            due("start()", x.start(), m.start());
+            bits = below(6) == 0 ? unevenRow() : bits;
+            int n = below(8) == 0 ? from(1, 15) : 15;
+            due("hand(" + (bits >>> (15 - n)) + "," + n + ")", x.hand(bits >>> (15 - n), n), m.hand(bits >>> (15 - n), n));
+            for (int what = 0; what <= 4; what++) {
+                due("compared(" + what + ")", x.compared(what), m.compared(what));
+            }
+            askCounts(9, 11);
+            if (below(6) == 0) {
+                act();
+            }
+        }
+        askCounts(-1, 29);
+    }
+
+    /** A watch that seldom is in ALARM, whose POOL fills up and is taken from. */
+    private void runOfPool() {
+        int block = from(2, 40);
+        String text = "chance 8;log 40;start " + from(0, 2) + ";block " + block + ";out " + from(1, 16) + ";seed "
+            + from(0, 9999) + ";";
+        tellText(text);
+        readText(text);
+        due("start()", x.start(), m.start());
+        while (calls < FEW_LEFT && !check.failed()) {
+            int n = below(6) == 0 ? 400 : from(1, 3 * block);
+            due("draw(" + n + ")", x.draw(n), m.draw(n));
+            n = below(3) == 0 ? from(0, 31) : from(1, 8);
+            due("take(" + n + ")", x.take(n), m.take(n));
+            n = from(-1, 257);
+            due("pool(" + n + ")", x.pool(n), m.pool(n));
+            askCounts(20, 25);
+            if (below(9) == 0) {
+                act();
+            }
+        }
+        askCounts(-1, 29);
+    }
+
     private void run() {
         if (below(10) != 0) {
             tellScript();
@@ -227,7 +299,12 @@ public final class RandomRunsTest {
         Check check = new Check();
         int runs = args.length > 0 ? Integer.parseInt(args[0]) : 2000;
         for (int seed = 0; seed < runs && !check.failed(); seed++) {
-            new RandomRunsTest(seed, check).run();
+            RandomRunsTest one = new RandomRunsTest(seed, check);
+            switch (seed % 20) {
+                case 8, 18 -> one.runOfRows();
+                case 19 -> one.runOfPool();
+                default -> one.run();
+            }
         }
         check.end("RandomRunsTest");
     }

@@ -231,6 +231,28 @@ public final class TextEdgesTest {
         }
     }
 
+    /** In each place of a text that can be each sort of token that can not stand there. */
+    private static void tokensOutOfPlace() {
+        CHECK.part("1 the first token that can not stand there");
+        String[] can = {"log", "5", ";", "stuck", "1", "2", "1", ";", "seed", "0", ";"};
+        String sorts = "wns" + "wnnns" + "wns";
+        String[] others = {"log", "stuck", "x", "stuckk", "5", "9999", "10000", ";", "?"};
+        String sortsOfOthers = "ww..nn.s.";
+        for (int place = 0; place < can.length; place++) {
+            StringBuilder ahead = new StringBuilder();
+            StringBuilder behind = new StringBuilder();
+            for (int i = 0; i < can.length; i++) {
+                (i < place ? ahead : behind).append(i == place ? "" : can[i] + " ");
+            }
+            for (int k = 0; k < others.length; k++) {
+                if (sortsOfOthers.charAt(k) != sorts.charAt(place)) {
+                    read(ahead + others[k] + " " + behind, 1, ahead.length());
+                    read(ahead + others[k], 1, ahead.length());
+                }
+            }
+        }
+    }
+
     private static void digits() {
         CHECK.part("NUMBERS, 1 to 4 digits .. (a longer row of digits is none)");
         same("1 digit", counted("log 7;", 1), 7);
@@ -396,6 +418,7 @@ public final class TextEdgesTest {
         upToTheFirst0();
         blanksBetween();
         bytesThatBeginNone();
+        tokensOutOfPlace();
         digits();
         theEnd();
         firstByPlace();
